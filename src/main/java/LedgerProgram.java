@@ -35,7 +35,8 @@ public final class LedgerProgram {
     private final int[] itemTimes = new int[ITEMS];
     private final int[] itemDigits = new int[ITEMS];
     private final int[] itemDecimals = new int[ITEMS];
-    private final boolean[] itemSigned = new boolean[ITEMS];
+    /** 1 for the sign that stands before a number's digits, else 0. */
+    private final int[] itemSignPlaces = new int[ITEMS];
     private final int[] itemPicture = new int[ITEMS];
 
     private final int[] opOf = new int[INSTRUCTIONS];
@@ -79,14 +80,15 @@ public final class LedgerProgram {
         if (digits < 1 || digits > MOST_DIGITS || decimals < 0 || decimals > digits) {
             return false;
         }
-        int length = signed ? digits + 1 : digits;
+        int signPlaces = signed ? 1 : 0;
+        int length = signPlaces + digits;
         if (!canLie(item, at, length, times)) {
             return false;
         }
         lay(item, NUMBER, at, length, times);
         itemDigits[item] = digits;
         itemDecimals[item] = decimals;
-        itemSigned[item] = signed;
+        itemSignPlaces[item] = signPlaces;
         return true;
     }
 
@@ -215,7 +217,7 @@ public final class LedgerProgram {
         itemTimes[item] = times;
         itemDigits[item] = 0;
         itemDecimals[item] = 0;
-        itemSigned[item] = false;
+        itemSignPlaces[item] = 0;
         itemPicture[item] = 0;
         checked = false;
     }
@@ -524,7 +526,7 @@ public final class LedgerProgram {
 
     private boolean isNumeric(int item) {
         int from = placeNow(item);
-        for (int i = signPlaces(item); i < itemLength[item]; i++) {
+        for (int i = itemSignPlaces[item]; i < itemLength[item]; i++) {
             if (storage[from + i] > 9) {
                 return false;
             }
@@ -639,10 +641,6 @@ public final class LedgerProgram {
         return itemTimes[item] > 1 ? itemAt[item] + (indexNow - 1) * itemLength[item] : itemAt[item];
     }
 
-    private int signPlaces(int item) {
-        return itemSigned[item] ? 1 : 0;
-    }
-
     private long operandValue(int operand, int z) {
         if (operand == LITERAL) {
             return z;
@@ -658,7 +656,7 @@ public final class LedgerProgram {
     private long valueAt(int item, int from) {
         boolean gaps = itemSort[item] != NUMBER;
         boolean minus = false;
-        int first = signPlaces(item);
+        int first = itemSignPlaces[item];
         long sum = 0;
         for (int i = first; i < itemLength[item]; i++) {
             int c = storage[from + i];
@@ -691,7 +689,7 @@ public final class LedgerProgram {
 
     private void putNumber(int item, int from, long stored) {
         long rest = stored < 0 ? -stored : stored;
-        int first = signPlaces(item);
+        int first = itemSignPlaces[item];
         for (int i = itemLength[item] - 1; i >= first; i--) {
             storage[from + i] = (int) (rest % 10);
             rest = rest / 10;
@@ -735,7 +733,7 @@ public final class LedgerProgram {
 
     /** The characters of an item, of a number without its sign, with spaces up to the greatest length. */
     private void takeCharacters(int item, int[] into) {
-        int skipped = signPlaces(item);
+        int skipped = itemSignPlaces[item];
         int from = placeNow(item) + skipped;
         int length = itemLength[item] - skipped;
         for (int i = 0; i < MOST_TEXT; i++) {
