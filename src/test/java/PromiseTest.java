@@ -1,16 +1,5 @@
 /** Goes through the promises of the document, one method or more for each. */
-public final class PromiseTest {
-    private static final int PARAGRAPH = 0, MOVE = 1, ADD = 2, SUBTRACT = 3, MULTIPLY = 4, DIVIDE = 5;
-    private static final int ADD_R = 6, SUBTRACT_R = 7, MULTIPLY_R = 8, DIVIDE_R = 9;
-    private static final int IF = 10, IF_SIZE = 11, IF_NUMERIC = 12, ELSE = 13, END = 14;
-    private static final int PERFORM = 15, VARYING = 16, GO_TO = 17, STOP = 18, DISPLAY = 19;
-    private static final int SET_INDEX = 20, CHANGE_INDEX = 21, TALLY = 22;
-    private static final int Z = 16;
-    private static final String CHARACTERS = "0123456789 -+.,*ABCDEFGHIJKLMNOPQRSTUVWXYZ";
-
-    private static int wrong = 0;
-    private static int looked = 0;
-
+public final class PromiseTest extends Bench {
     public static void main(String[] args) {
         newObject();
         numberItems();
@@ -48,92 +37,7 @@ public final class PromiseTest {
         displaying();
         tallying();
         runningAgain();
-        System.out.println(looked + " answers looked at, " + wrong + " wrong");
-        if (wrong != 0) {
-            System.exit(1);
-        }
-    }
-
-    // Helpers
-
-    private static void due(String what, long got, long want) {
-        looked++;
-        if (got != want) {
-            wrong++;
-            System.out.println(what + " answered " + got + ", due is " + want);
-        }
-    }
-
-    private static void due(String what, boolean got, boolean want) {
-        due(what, got ? 1 : 0, want ? 1 : 0);
-    }
-
-    private static void due(String what, String got, String want) {
-        looked++;
-        if (!got.equals(want)) {
-            wrong++;
-            System.out.println(what + " answered '" + got + "', due is '" + want + "'");
-        }
-    }
-
-    private static void put(LedgerProgram p, int at, String characters) {
-        for (int i = 0; i < characters.length(); i++) {
-            due("poke", p.poke(at + i, CHARACTERS.indexOf(characters.charAt(i))), true);
-        }
-    }
-
-    private static String stored(LedgerProgram p, int at, int length) {
-        StringBuilder s = new StringBuilder();
-        for (int i = at; i < at + length; i++) {
-            s.append(CHARACTERS.charAt(p.peek(i)));
-        }
-        return s.toString();
-    }
-
-    private static String shown(LedgerProgram p) {
-        StringBuilder s = new StringBuilder();
-        for (int k = 0; p.output(k) >= 0; k++) {
-            s.append(CHARACTERS.charAt(p.output(k)));
-        }
-        return s.toString();
-    }
-
-    /** Appends instructions, each given as op, x, y, z. */
-    private static void write(LedgerProgram p, int... parts) {
-        for (int i = 0; i < parts.length; i += 4) {
-            p.add(parts[i], parts[i + 1], parts[i + 2], parts[i + 3]);
-        }
-    }
-
-    /** A new program of one paragraph in place of the old one, run. */
-    private static int runLines(LedgerProgram p, int... parts) {
-        p.drop();
-        p.add(PARAGRAPH, 0, 0, 0);
-        write(p, parts);
-        due("check", p.check(), true);
-        return p.run();
-    }
-
-    private static int runAll(LedgerProgram p, int... parts) {
-        p.drop();
-        write(p, parts);
-        due("check", p.check(), true);
-        return p.run();
-    }
-
-    /** Where the fault of a program is. */
-    private static int fault(LedgerProgram p, int... parts) {
-        p.drop();
-        write(p, parts);
-        boolean good = p.check();
-        due("check and place", good, p.place() == -1);
-        due("run follows check", p.run() == LedgerProgram.UNCHECKED, !good);
-        return p.place();
-    }
-
-    /** Octal digits as the signs of a picture. */
-    private static int picture(String signs) {
-        return Integer.parseInt(signs, 8);
+        finish();
     }
 
     // Promise 1
